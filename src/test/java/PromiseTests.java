@@ -202,6 +202,11 @@ public final class PromiseTests {
         due("its chill", x.section(2, 2), 500);
         // 1000 / 1000 is as much as 400 / 400: of equal moduli the lower number freezes first.
         due("atStep(1)", x.atStep(1), 0);
+        due("setChill(0, 500)", x.setChill(0, 500), 0);
+        // 400 / 900 is less than 200 / 400.
+        due("atStep(0)", x.atStep(0), 0);
+        x.undo();
+        due("atStep(0) before it", x.atStep(0), 1);
         recorded("setChill", x, before);
         x.setChill(2, 500);
         due("setChill(2, 0)", x.setChill(2, 0), 500);
@@ -217,12 +222,14 @@ public final class PromiseTests {
         x.join(0, 3);
         x.join(2, 0);
         x.setChill(3, 33);
+        x.resize(3, 400, 99);
         long before = x.digest();
         due("removeSection(1)", x.removeSection(1), 3);
         int[] volumes = {100, 300, 400};
         for (int i = 0; i < 3; i++) {
             due("volume of " + i, x.section(i, 0), volumes[i]);
         }
+        due("the area moves along", x.section(2, 1), 99);
         due("the chill moves along", x.section(2, 2), 33);
         due("the feeder moves along", x.section(2, 3), 1);
         due("joints that are left", x.count(1), 3);
@@ -236,6 +243,9 @@ public final class PromiseTests {
         due("removeSection(-1)", x.removeSection(-1), BAD_INDEX);
         due("removeSection(3), the last one", x.removeSection(3), 3);
         due("removeSection(0), the first one", x.removeSection(0), 2);
+        due("volume of 0 now", x.section(0, 0), 200);
+        due("volume of 1 now", x.section(1, 0), 300);
+        due("joint(0, 0) now", x.joint(0, 0), 0);
         due("removeSection(0)", x.removeSection(0), 1);
         due("removeSection(0), the only one", x.removeSection(0), 0);
         due("no joints", x.count(1), 0);
@@ -329,6 +339,7 @@ public final class PromiseTests {
         CastingFeeder feeders = new CastingFeeder();
         feeders.addSection(10, 10, true);
         due("the yield of feeders alone", feeders.count(8), 0);
+        due("a feeder with the number 0", feeders.count(4), 1);
         CastingFeeder parts = new CastingFeeder();
         parts.addSection(10, 10, false);
         due("the yield without feeders", parts.count(8), 1000);
@@ -527,6 +538,9 @@ public final class PromiseTests {
         due("the largest size", edge.leastFeeder(0), 15);
         edge.setMetal(50, 99);
         due("the largest size bears too little", edge.leastFeeder(0), NONE);
+        due("bestFeeder(): the largest size bears too little", edge.bestFeeder(), NONE);
+        edge.undo();
+        due("bestFeeder(): the largest size", edge.bestFeeder(), 1500);
         leastFeederErrors();
     }
 
@@ -825,6 +839,8 @@ public final class PromiseTests {
         fault(x, "c1/1; 1=0", 6);
         fault(x, "c1/1;0=0", 7);
         fault(x, "c1/1;0= 1", 8);
+        fault(x, "c1/1;0=  0", 9);
+        fault(x, "c4999/1990", NONE);
         fault(x, "c1/1;0=00000", 7);
         fault(x, "c1/1;00000=0", 5);
         fault(x, "c1/1;c1/1;0=1;1=0", 16);
@@ -909,6 +925,15 @@ public final class PromiseTests {
         }
         due("digest() of two sections", x.digest(), h);
         due("digest() again", x.digest(), h);
+        x.part(0);
+        long parted = x.digest();
+        x.undo();
+        x.part(0);
+        x.join(0, 1);
+        due("digest() with the joint turned", x.digest(), h - 31 + 1);
+        x.part(0);
+        due("digest() without the joint", x.digest(), parted);
+        x.join(1, 0);
         x.type(99);
         due("the text does not count", x.digest(), h);
     }
