@@ -47,70 +47,8 @@ public final class PromiseTests {
         Checks.due(call, got, want);
     }
 
-    // ---- castings to begin with
-
-    /** Steps: 1, 0, 2; 1 and 0 are fed by 2, which is a hot spot with the need 10 + 20 + 50. */
-    private static CastingFeeder star() {
-        CastingFeeder x = new CastingFeeder();
-        x.addSection(400, 400, false);
-        x.addSection(200, 400, false);
-        x.addSection(1000, 500, false);
-        x.join(0, 2);
-        x.join(1, 2);
-        return x;
-    }
-
-    /** A way 0, 1, 2, 3 with the moduli 1, 2, 3, 4, and the first needs 5, 10, 15, 20; 3 is a feeder. */
-    private static CastingFeeder chain() {
-        CastingFeeder x = new CastingFeeder();
-        x.addSection(100, 100, false);
-        x.addSection(200, 100, false);
-        x.addSection(300, 100, false);
-        x.addSection(400, 100, true);
-        x.join(0, 1);
-        x.join(1, 2);
-        x.join(3, 2);
-        return x;
-    }
-
-    private static CastingFeeder withSections(int sections) {
-        CastingFeeder x = new CastingFeeder();
-        for (int i = 0; i < sections; i++) {
-            x.addSection(10 + i, 10, false);
-        }
-        return x;
-    }
-
-    private static CastingFeeder withJoints(int sections, int joints) {
-        CastingFeeder x = withSections(sections);
-        int made = 0;
-        for (int i = 0; i < sections; i++) {
-            for (int j = i + 1; j < sections && made < joints; j++) {
-                x.join(i, j);
-                made++;
-            }
-        }
-        return x;
-    }
-
-    private static CastingFeeder typed(CastingFeeder x, String text) {
-        x.clearText();
-        for (int i = 0; i < text.length(); i++) {
-            x.type(text.charAt(i));
-        }
-        return x;
-    }
-
     private static void fault(CastingFeeder x, String text, int want) {
-        due("textFault() of \"" + text + "\"", typed(x, text).textFault(), want);
-    }
-
-    private static int statesOf(CastingFeeder x) {
-        int states = 0;
-        while (x.undo() >= 0) {
-            states++;
-        }
-        return states;
+        due("textFault() of \"" + text + "\"", Castings.typed(x, text).textFault(), want);
     }
 
     /** The call that was just made is recorded: undo() gives back what was before it. */
@@ -174,7 +112,7 @@ public final class PromiseTests {
     }
 
     private static void promise3resize() {
-        CastingFeeder x = star();
+        CastingFeeder x = Castings.star();
         x.setChill(0, 9);
         long before = x.digest();
         due("resize(0, 5000, 1)", x.resize(0, 5000, 1), 400);
@@ -196,7 +134,7 @@ public final class PromiseTests {
     }
 
     private static void promise4setChill() {
-        CastingFeeder x = star();
+        CastingFeeder x = Castings.star();
         long before = x.digest();
         due("setChill(2, 500)", x.setChill(2, 500), 0);
         due("its chill", x.section(2, 2), 500);
@@ -218,7 +156,7 @@ public final class PromiseTests {
     }
 
     private static void promise5removeSection() {
-        CastingFeeder x = chain();
+        CastingFeeder x = Castings.chain();
         x.join(0, 3);
         x.join(2, 0);
         x.setChill(3, 33);
@@ -253,7 +191,7 @@ public final class PromiseTests {
     }
 
     private static void promise6join() {
-        CastingFeeder x = withSections(7);
+        CastingFeeder x = Castings.withSections(7);
         long before = x.digest();
         due("join(5, 2)", x.join(5, 2), 0);
         due("joint(0, 0)", x.joint(0, 0), 5);
@@ -268,7 +206,7 @@ public final class PromiseTests {
         due("join(-1, -1)", x.join(-1, -1), BAD_INDEX);
         due("join(9, 9)", x.join(9, 9), BAD_INDEX);
         due("one joint", x.count(1), 1);
-        x = withJoints(7, 19);
+        x = Castings.withJoints(7, 19);
         due("a twentieth joint", x.join(6, 4), 19);
         due("a further joint", x.join(6, 5), FULL);
         due("BAD_STATE before FULL", x.join(0, 1), BAD_STATE);
@@ -278,7 +216,7 @@ public final class PromiseTests {
     }
 
     private static void promise7part() {
-        CastingFeeder x = chain();
+        CastingFeeder x = Castings.chain();
         long before = x.digest();
         due("part(1)", x.part(1), 2);
         due("joint(0, 1)", x.joint(0, 1), 1);
@@ -292,7 +230,7 @@ public final class PromiseTests {
         due("part(0)", x.part(0), 1);
         due("part(0)", x.part(0), 0);
         due("part(0) of none", x.part(0), BAD_INDEX);
-        CastingFeeder full = withJoints(7, 20);
+        CastingFeeder full = Castings.withJoints(7, 20);
         due("part(19) of 20", full.part(19), 19);
         due("a joint where another one was", full.join(5, 6), 19);
         due("part(0) of 20", full.part(0), 19);
@@ -300,7 +238,7 @@ public final class PromiseTests {
     }
 
     private static void promise8setMetal() {
-        CastingFeeder x = chain();
+        CastingFeeder x = Castings.chain();
         long before = x.digest();
         due("setMetal(200, 500)", x.setMetal(200, 500), 50);
         due("the shrinkage", x.count(2), 200);
@@ -318,7 +256,7 @@ public final class PromiseTests {
     }
 
     private static void promise9count() {
-        CastingFeeder x = chain();
+        CastingFeeder x = Castings.chain();
         x.addSection(100, 400, false);
         x.addSection(30, 400, true);
         // The hot spots: 3 with the pores 50 (it bears 56), 4 with 5, 5 with 1 (it bears 4).
@@ -352,7 +290,7 @@ public final class PromiseTests {
     }
 
     private static void promise10section() {
-        CastingFeeder x = chain();
+        CastingFeeder x = Castings.chain();
         x.addSection(50, 100, false);
         x.join(1, 4);
         x.setChill(0, 1);
@@ -430,7 +368,7 @@ public final class PromiseTests {
     }
 
     private static void promise12joint() {
-        CastingFeeder x = chain();
+        CastingFeeder x = Castings.chain();
         int[][] joints = {{0, 1}, {1, 2}, {3, 2}};
         for (int i = 0; i < joints.length; i++) {
             due("joint(" + i + ", 0)", x.joint(i, 0), joints[i][0]);
@@ -443,7 +381,7 @@ public final class PromiseTests {
     }
 
     private static void promise13atStep() {
-        CastingFeeder x = star();
+        CastingFeeder x = Castings.star();
         int[] order = {1, 0, 2};
         for (int i = 0; i < 3; i++) {
             due("atStep(" + i + ")", x.atStep(i), order[i]);
@@ -466,7 +404,7 @@ public final class PromiseTests {
     }
 
     private static void promise14way() {
-        CastingFeeder x = chain();
+        CastingFeeder x = Castings.chain();
         for (int from = 0; from < 4; from++) {
             for (int i = 0; i < 6; i++) {
                 due("way(" + from + ", " + i + ")", x.way(from, i), from + i < 4 ? from + i : NONE);
@@ -476,7 +414,7 @@ public final class PromiseTests {
         due("way(0, -1)", x.way(0, -1), BAD_VALUE);
         due("way(4, -1)", x.way(4, -1), BAD_INDEX);
         due("way(-1, 0)", x.way(-1, 0), BAD_INDEX);
-        CastingFeeder all = withSections(12);
+        CastingFeeder all = Castings.withSections(12);
         for (int i = 0; i < 11; i++) {
             all.join(i, i + 1);
         }
@@ -486,7 +424,7 @@ public final class PromiseTests {
     }
 
     private static void promise15end() {
-        CastingFeeder x = chain();
+        CastingFeeder x = Castings.chain();
         x.addSection(10, 100, false);
         int[] ends = {3, 3, 3, 3, 4};
         for (int i = 0; i < ends.length; i++) {
@@ -500,7 +438,7 @@ public final class PromiseTests {
     }
 
     private static void promise16gathers() {
-        CastingFeeder x = chain();
+        CastingFeeder x = Castings.chain();
         due("gathers(3)", x.gathers(3), 50);
         due("gathers(2), no hot spot", x.gathers(2), 0);
         x.part(1);
@@ -563,7 +501,7 @@ public final class PromiseTests {
     }
 
     private static void leastFeederErrors() {
-        CastingFeeder x = withSections(11);
+        CastingFeeder x = Castings.withSections(11);
         // Just 10, with the volume 20, has a need that is not 0; its modulus 2 asks for the size 10.
         due("with 11 sections: leastFeeder(10)", x.leastFeeder(10), 10);
         due("with 11 sections: leastFeeder(0)", x.leastFeeder(0), NONE);
@@ -572,8 +510,8 @@ public final class PromiseTests {
         due("with 12 sections", x.leastFeeder(0), FULL);
         due("with 12 sections: leastFeeder(12)", x.leastFeeder(12), BAD_INDEX);
         due("leastFeeder(-1)", x.leastFeeder(-1), BAD_INDEX);
-        due("with 19 joints", withJoints(7, 19).leastFeeder(0), 1);
-        due("with 20 joints", withJoints(7, 20).leastFeeder(0), FULL);
+        due("with 19 joints", Castings.withJoints(7, 19).leastFeeder(0), 1);
+        due("with 20 joints", Castings.withJoints(7, 20).leastFeeder(0), FULL);
     }
 
     private static void promise18bestFeeder() {
@@ -600,10 +538,10 @@ public final class PromiseTests {
         apart.addSection(100, 100, false);
         due("two hot spots need two feeders", apart.bestFeeder(), NONE);
         smallerSizeBeforeLowerSection();
-        due("with 12 sections", withSections(12).bestFeeder(), FULL);
-        due("with 20 joints", withJoints(7, 20).bestFeeder(), FULL);
-        due("with 11 sections", withSections(11).bestFeeder(), 1010);
-        due("with 19 joints", withJoints(7, 19).bestFeeder(), 100);
+        due("with 12 sections", Castings.withSections(12).bestFeeder(), FULL);
+        due("with 20 joints", Castings.withJoints(7, 20).bestFeeder(), FULL);
+        due("with 11 sections", Castings.withSections(11).bestFeeder(), 1010);
+        due("with 19 joints", Castings.withJoints(7, 19).bestFeeder(), 100);
         due("no section", new CastingFeeder().bestFeeder(), NONE);
     }
 
@@ -706,24 +644,24 @@ public final class PromiseTests {
             x.setMetal(100 + i, i);
         }
         due("undo() between: the shrinkage", x.count(2), 102);
-        due("undo() between: states", statesOf(x), 3);
+        due("undo() between: states", Castings.statesOf(x), 3);
         due("and the first shrinkage", x.count(2), 50);
         undoLeavesTheText();
         queriesAreNotRecorded();
     }
 
     private static void undoLeavesTheText() {
-        CastingFeeder x = typed(withSections(2), "0=1");
+        CastingFeeder x = Castings.typed(Castings.withSections(2), "0=1");
         due("load()", x.load(), 1);
         due("textFault() after load()", x.textFault(), 2);
         due("undo() of load()", x.undo(), 2);
         due("the text is still there", x.textFault(), NONE);
-        due("type and clearText are not recorded", statesOf(x), 2);
+        due("type and clearText are not recorded", Castings.statesOf(x), 2);
     }
 
     private static void queriesAreNotRecorded() {
-        CastingFeeder x = chain();
-        int states = statesOf(chain());
+        CastingFeeder x = Castings.chain();
+        int states = Castings.statesOf(Castings.chain());
         x.count(0);
         x.section(0, 0);
         x.modulus(0, false);
@@ -742,7 +680,7 @@ public final class PromiseTests {
         x.clearText();
         x.digest();
         x.join(0, 0);
-        due("states", statesOf(x), states);
+        due("states", Castings.statesOf(x), states);
     }
 
     private static void promise22type() {
@@ -761,7 +699,7 @@ public final class PromiseTests {
     }
 
     private static void promise23clearText() {
-        CastingFeeder x = typed(new CastingFeeder(), "c1/1");
+        CastingFeeder x = Castings.typed(new CastingFeeder(), "c1/1");
         due("clearText()", x.clearText(), 4);
         due("clearText() again", x.clearText(), 0);
         due("the text is empty", x.textFault(), 0);
@@ -848,7 +786,7 @@ public final class PromiseTests {
         fault(x, "c1/1;c1/1;1=2", 12);
         fault(x, "c1/1;c1/1;2=1", 10);
         fault(x, "0=1;c1/1;c1/1", 0);
-        CastingFeeder two = withSections(2);
+        CastingFeeder two = Castings.withSections(2);
         fault(two, "0=1", NONE);
         fault(two, "c1/1;2=0;1=2", NONE);
         two.join(1, 0);
@@ -857,25 +795,25 @@ public final class PromiseTests {
     }
 
     private static void promise24faultsOfRoom() {
-        fault(withSections(11), "c1/1", NONE);
-        fault(withSections(11), "c1/1; f1/1", 6);
-        fault(withSections(12), " c1/1", 1);
-        fault(withSections(12), "f", 0);
-        fault(withSections(12), "0=1;cx", 4);
-        fault(withJoints(7, 19), "4=5", 2);
-        fault(withJoints(7, 19), "4=6", NONE);
-        fault(withJoints(7, 19), "4=6; 5=6", 5);
-        fault(withJoints(7, 20), "5=6", 0);
-        fault(withJoints(7, 20), "0=1", 0);
-        fault(withJoints(7, 20), " 5", 1);
-        fault(withJoints(7, 20), "c1/1;0=7", 5);
-        fault(withJoints(7, 20), "c1/1;0", 5);
+        fault(Castings.withSections(11), "c1/1", NONE);
+        fault(Castings.withSections(11), "c1/1; f1/1", 6);
+        fault(Castings.withSections(12), " c1/1", 1);
+        fault(Castings.withSections(12), "f", 0);
+        fault(Castings.withSections(12), "0=1;cx", 4);
+        fault(Castings.withJoints(7, 19), "4=5", 2);
+        fault(Castings.withJoints(7, 19), "4=6", NONE);
+        fault(Castings.withJoints(7, 19), "4=6; 5=6", 5);
+        fault(Castings.withJoints(7, 20), "5=6", 0);
+        fault(Castings.withJoints(7, 20), "0=1", 0);
+        fault(Castings.withJoints(7, 20), " 5", 1);
+        fault(Castings.withJoints(7, 20), "c1/1;0=7", 5);
+        fault(Castings.withJoints(7, 20), "c1/1;0", 5);
     }
 
     private static void promise25load() {
-        CastingFeeder x = withSections(1);
+        CastingFeeder x = Castings.withSections(1);
         long before = x.digest();
-        typed(x, "f200/50-7; c3/4;2=0 ;0=01");
+        Castings.typed(x, "f200/50-7; c3/4;2=0 ;0=01");
         due("load()", x.load(), 4);
         due("sections", x.count(0), 3);
         due("joints", x.count(1), 2);
@@ -892,16 +830,16 @@ public final class PromiseTests {
         due("it freezes: way(2, 2)", x.way(2, 2), 1);
         recorded("load, as one call,", x, before);
         due("the text stays", x.clearText(), 25);
-        typed(x, "c1/1;c1/1;1=2;9=1");
+        Castings.typed(x, "c1/1;c1/1;1=2;9=1");
         before = x.digest();
         due("load() of a faulty text", x.load(), BAD_STATE);
         due("it adds nothing", x.digest(), before);
-        due("and records nothing", statesOf(x), 1);
-        CastingFeeder again = typed(new CastingFeeder(), "c1/1;f2/2");
+        due("and records nothing", Castings.statesOf(x), 1);
+        CastingFeeder again = Castings.typed(new CastingFeeder(), "c1/1;f2/2");
         due("load() once", again.load(), 2);
         due("load() twice", again.load(), 2);
         due("sections of both", again.count(0), 4);
-        due("states of both", statesOf(again), 2);
+        due("states of both", Castings.statesOf(again), 2);
     }
 
     private static void promise26digest() {
@@ -940,7 +878,7 @@ public final class PromiseTests {
 
     /** Calls that return errors: neither the state, nor the history, nor the text changes. */
     private static void errorsChangeNothing() {
-        CastingFeeder x = typed(withJoints(7, 20), "c1/1;x");
+        CastingFeeder x = Castings.typed(Castings.withJoints(7, 20), "c1/1;x");
         for (int i = 7; i < 12; i++) {
             x.addSection(50, 20, true);
         }
