@@ -196,7 +196,7 @@ public final class CastingFeeder {
             return BAD_VALUE;
         }
         int reached = section;
-        for (int i = 0; i < index && reached != NONE; i++) {
+        for (int i = 0; i < index && i < MAX_SECTIONS && reached != NONE; i++) {
             reached = at(freezing.source, reached);
         }
         return reached;

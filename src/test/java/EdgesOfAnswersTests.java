@@ -120,6 +120,26 @@ public final class EdgesOfAnswersTests {
         due("hot spots of one", Castings.withSections(1).count(5), 1);
     }
 
+    static void promise9_whatIsRemovedDoesNotCount() {
+        CastingFeeder x = largest(true);
+        for (int i = 0; i < 11; i++) {
+            x.join(i, i + 1);
+        }
+        for (int left = 11; left >= 1; left--) {
+            x.removeSection(left);
+            int[] numbers = {left, left - 1, 200, 500, left, 1, 1000 * left, Math.max(0, 1000 * left - 2500), 0, left < 3 ? 1 : 0};
+            for (int what = 0; what < numbers.length; what++) {
+                due("count(" + what + ") with " + left, x.count(what), numbers[what]);
+            }
+        }
+        CastingFeeder y = one(100, 1, false);
+        y.addSection(100, 1, true);
+        y.removeSection(1);
+        due("the yield without the feeder", y.count(8), 1000);
+        y.addSection(300, 1, true);
+        due("the yield with another feeder", y.count(8), 250);
+    }
+
     // ---- promise 10
 
     static void promise10_theSectionIsFrom0ToTheLastOne() {
@@ -381,6 +401,16 @@ public final class EdgesOfAnswersTests {
         asks("atStep(0) of none", Castings::empty, x -> x.atStep(0), NONE);
     }
 
+    static void promise13_noneWhereThereWereMore() {
+        CastingFeeder x = Castings.withSections(12);
+        for (int left = 11; left >= 0; left--) {
+            x.removeSection(0);
+            for (int step = 0; step <= 12; step++) {
+                due("atStep(" + step + ") with " + left, x.atStep(step), step < left ? step : NONE);
+            }
+        }
+    }
+
     // ---- promise 14
 
     static void promise14_theSectionIsFrom0ToTheLastOne() {
@@ -468,6 +498,17 @@ public final class EdgesOfAnswersTests {
         due("gathers(1) of 0.95 and 1.95", x.gathers(1), 1);
         x.resize(0, 20, 20);
         due("gathers(1) of 1 and 1.95", x.gathers(1), 2);
+    }
+
+    static void promise16_whatIsRemovedDoesNotCount() {
+        CastingFeeder x = Castings.star();
+        x.addSection(60, 400, false);
+        x.join(3, 2);
+        due("gathers(2) with 3", x.gathers(2), 83);
+        x.removeSection(3);
+        due("gathers(2) without 3", x.gathers(2), 80);
+        x.removeSection(0);
+        due("gathers(1) of what is left", x.gathers(1), 60);
     }
 
     // ---- promise 17
@@ -559,6 +600,27 @@ public final class EdgesOfAnswersTests {
             asks("leastFeeder(" + bad + ")", Castings::full, x -> x.leastFeeder(bad), BAD_INDEX);
         }
         asks("leastFeeder(7) with 20 joints", () -> Castings.withJoints(7, 20), x -> x.leastFeeder(7), BAD_INDEX);
+    }
+
+    /** Twelve sections; the last one, a feeder, is joined by the twentieth joint alone, to 10, which needs it. */
+    private static CastingFeeder fedByTheLastJoint() {
+        CastingFeeder x = Castings.withJoints(11, 19);
+        x.addSection(4000, 2000, true);
+        x.join(11, 10);
+        return x;
+    }
+
+    static void promise17_theLastSectionAndTheLastJointCount() {
+        CastingFeeder x = fedByTheLastJoint();
+        x.removeSection(9);
+        // The joints 0=9 and 1=9 are gone, 10 and 11 are 9 and 10 now.
+        due("joints", x.count(1), 18);
+        x.join(5, 6);
+        due("count(9)", x.count(9), 1);
+        for (int i = 0; i < 11; i++) {
+            due("leastFeeder(" + i + ")", x.leastFeeder(i), 1);
+        }
+        due("bestFeeder()", x.bestFeeder(), 100);
     }
 
     // ---- promise 18
@@ -698,6 +760,22 @@ public final class EdgesOfAnswersTests {
         due("leastChill(11) of a sound casting", x.leastChill(11), 0);
         x.setMetal(48, 140);
         due("leastChill(11) of one that is not", x.leastChill(11), NONE);
+    }
+
+    static void promise19_theLastSectionAndTheLastJointCount() {
+        Castings.Making making = EdgesOfAnswersTests::fedByTheLastJoint;
+        due("count(1)", making.make().count(1), 20);
+        due("count(9)", making.make().count(9), 1);
+        for (int i = 0; i < 12; i++) {
+            due("leastChill(" + i + ")", making.make().leastChill(i), 0);
+        }
+        // 21 / 10 freezes after 4000 / 2000; with the chill 1 it does not.
+        CastingFeeder x = making.make();
+        x.resize(10, 21, 10);
+        due("leastChill(10)", x.leastChill(10), 1);
+        due("excessWith(10, 0)", x.excessWith(10, 0), 201);
+        due("excessWith(10, 1)", x.excessWith(10, 1), 0);
+        due("leastChill(11)", x.leastChill(11), NONE);
     }
 
     // ---- promise 20

@@ -186,6 +186,17 @@ public final class EdgesOfStateTests {
         due("resize(3, 1, 1)", x.resize(3, 1, 1), 5000);
     }
 
+    static void promise3_theCastingFreezesAnew() {
+        CastingFeeder x = Castings.star();
+        due("resize(0, 2000, 1000)", x.resize(0, 2000, 1000), 400);
+        due("atStep(2), of equal moduli the higher number", x.atStep(2), 2);
+        due("resize(0, 2001, 1000)", x.resize(0, 2001, 1000), 2000);
+        due("atStep(2), the larger modulus", x.atStep(2), 0);
+        due("the need of 0", x.section(0, 5), 100 + 50 + 10);
+        due("resize(0, 2001, 1001)", x.resize(0, 2001, 1001), 2001);
+        due("atStep(2), the smaller modulus again", x.atStep(2), 2);
+    }
+
     // ---- promise 4
 
     static void promise4_theSectionIsFrom0ToTheLastOne() {
@@ -259,6 +270,39 @@ public final class EdgesOfStateTests {
         }
     }
 
+    static void promise5_theFirstAndTheLastJointGoToo() {
+        CastingFeeder x = Castings.withSections(4);
+        x.join(3, 0);
+        x.join(1, 2);
+        x.join(0, 3);
+        x.join(2, 3);
+        due("removeSection(3)", x.removeSection(3), 3);
+        due("joints that are left", x.count(1), 1);
+        due("joint(0, 0)", x.joint(0, 0), 1);
+        due("joint(0, 1)", x.joint(0, 1), 2);
+        due("removeSection(1)", x.removeSection(1), 2);
+        due("no joint is left", x.count(1), 0);
+        due("joint(0, 0) of none", x.joint(0, 0), BAD_INDEX);
+    }
+
+    static void promise5_eachFollowingSectionMovesWithAllThatItHas() {
+        for (int gone = 0; gone < 12; gone++) {
+            CastingFeeder x = new CastingFeeder();
+            for (int i = 0; i < 12; i++) {
+                x.addSection(100 + i, 200 + 2 * i, i % 3 == 0);
+                x.setChill(i, 300 + 3 * i);
+            }
+            x.removeSection(gone);
+            for (int i = 0; i < 11; i++) {
+                int was = i < gone ? i : i + 1;
+                int[] properties = {100 + was, 200 + 2 * was, 300 + 3 * was, was % 3 == 0 ? 1 : 0};
+                for (int what = 0; what < properties.length; what++) {
+                    due("without " + gone + ": section(" + i + ", " + what + ")", x.section(i, what), properties[what]);
+                }
+            }
+        }
+    }
+
     static void promise5_theFirstOneOfTwelve() {
         CastingFeeder x = Castings.full();
         x.setChill(11, 500);
@@ -288,6 +332,25 @@ public final class EdgesOfStateTests {
         for (int i = 0; i < 11; i++) {
             due("section(" + i + ", 0)", x.section(i, 0), 10 + i);
         }
+    }
+
+    static void promise5_theCastingFreezesAnew() {
+        CastingFeeder x = Castings.star();
+        x.removeSection(1);
+        // 400 / 400 and 1000 / 500 are left, with the needs 20 and 50.
+        due("atStep(0)", x.atStep(0), 0);
+        due("atStep(1)", x.atStep(1), 1);
+        due("atStep(2)", x.atStep(2), NONE);
+        due("section(0, 8)", x.section(0, 8), 1);
+        due("section(1, 5)", x.section(1, 5), 70);
+        due("count(5)", x.count(5), 1);
+        x.removeSection(1);
+        due("section(0, 8) when its source is gone", x.section(0, 8), NONE);
+        due("section(0, 6) when its source is gone", x.section(0, 6), 20);
+        due("end(0)", x.end(0), 0);
+        x.removeSection(0);
+        due("count(5) of none", x.count(5), 0);
+        due("count(6) of none", x.count(6), 0);
     }
 
     // ---- promise 6
@@ -379,6 +442,19 @@ public final class EdgesOfStateTests {
             due("after part(19): joint(" + i + ", 1)", y.joint(i, 1), i < 11 ? i + 1 : i - 9);
         }
         due("after part(19): joint(19, 0)", y.joint(19, 0), BAD_INDEX);
+    }
+
+    static void promise7_theCastingFreezesAnew() {
+        CastingFeeder x = Castings.star();
+        due("end(1) before it", x.end(1), 2);
+        x.part(1);
+        due("end(1)", x.end(1), 1);
+        due("pores of 1", x.section(1, 6), 10);
+        due("pores of 2", x.section(2, 6), 70);
+        x.join(1, 2);
+        due("end(1) when they are joined again", x.end(1), 2);
+        due("pores of 1 when they are joined again", x.section(1, 6), 0);
+        due("pores of 2 when they are joined again", x.section(2, 6), 80);
     }
 
     static void promise7_theOnlyJoint() {
@@ -494,6 +570,36 @@ public final class EdgesOfStateTests {
         due("the last section", x.section(11, 0), 21);
         due("its chill", x.section(11, 2), 500);
         due("the last joint", x.joint(19, 1), 10);
+    }
+
+    static void promise21_theLastJointAndTheLastSectionAreRestored() {
+        CastingFeeder x = Castings.withJoints(12, 20);
+        x.resize(11, 21, 12);
+        long before = x.digest();
+        x.part(19);
+        x.join(11, 10);
+        x.removeSection(11);
+        x.addSection(3, 4, true);
+        x.setChill(11, 5);
+        for (int i = 4; i >= 0; i--) {
+            due("undo()", x.undo(), i);
+        }
+        due("digest()", x.digest(), before);
+        due("joint(19, 0)", x.joint(19, 0), 1);
+        due("joint(19, 1)", x.joint(19, 1), 10);
+        int[] properties = {21, 12, 0, 0};
+        for (int what = 0; what < properties.length; what++) {
+            due("section(11, " + what + ")", x.section(11, what), properties[what]);
+        }
+    }
+
+    static void promise21_theCastingFreezesAnew() {
+        CastingFeeder x = Castings.star();
+        x.resize(0, 5000, 1);
+        due("atStep(2)", x.atStep(2), 0);
+        x.undo();
+        due("atStep(2) after undo()", x.atStep(2), 2);
+        due("the need of 2 after undo()", x.section(2, 5), 80);
     }
 
     static void promise21_theTextIsNotRestored() {

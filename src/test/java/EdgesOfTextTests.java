@@ -301,8 +301,9 @@ public final class EdgesOfTextTests {
         fault("c50000/1", 1);
         fault("c" + "0".repeat(118) + "1", 1);
         fault("c" + "9".repeat(119), 1);
-        // 2^32 + 1: a value that is kept in 32 bits would be 1.
+        // 2^32 + 1 and 2^64 + 1: a value that wraps around would be 1.
         fault("c4294967297/1", 1);
+        fault("c1/18446744073709551617", 3);
         Castings.Making two = () -> Castings.withSections(2);
         fault(two, "0000=0001", NONE);
         fault(two, "00000=1", 0);
@@ -490,6 +491,29 @@ public final class EdgesOfTextTests {
         due("join", x.join(9, 11), FULL);
         due("load() once more", x.load(), BAD_STATE);
         due("textFault()", x.textFault(), 0);
+    }
+
+    static void promise25_theLastJointStaysWhenSectionsAreAdded() {
+        CastingFeeder x = Castings.typed(Castings.withJoints(7, 20), "c1/1;f1/1");
+        due("load()", x.load(), 2);
+        due("joints", x.count(1), 20);
+        due("joint(19, 0)", x.joint(19, 0), 4);
+        due("joint(19, 1)", x.joint(19, 1), 6);
+        due("neighbours of 6", x.section(6, 10), 5);
+        due("neighbours of 8", x.section(8, 10), 0);
+    }
+
+    static void promise25_theCastingFreezesAnew() {
+        CastingFeeder x = Castings.typed(Castings.star(), "f4000/1000;2=3");
+        due("load()", x.load(), 2);
+        due("atStep(3)", x.atStep(3), 3);
+        due("end(0)", x.end(0), 3);
+        // 80 of the star and 200 of the feeder, which bears 560.
+        due("the need of 3", x.section(3, 5), 280);
+        due("count(9)", x.count(9), 1);
+        x.undo();
+        due("end(0) after undo()", x.end(0), 2);
+        due("count(9) after undo()", x.count(9), 0);
     }
 
     static void promise25_itIsRecordedAsOneCall() {
