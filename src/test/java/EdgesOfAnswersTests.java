@@ -509,6 +509,14 @@ public final class EdgesOfAnswersTests {
         due("gathers(2) without 3", x.gathers(2), 80);
         x.removeSection(0);
         due("gathers(1) of what is left", x.gathers(1), 60);
+        CastingFeeder y = one(5000, 1, false);
+        for (int i = 1; i < 12; i++) {
+            y.addSection(20 * i, 1000, false);
+            y.join(0, i);
+        }
+        due("gathers(0) of twelve", y.gathers(0), 250 + 66);
+        y.removeSection(11);
+        due("gathers(0) of eleven", y.gathers(0), 250 + 55);
     }
 
     // ---- promise 17
