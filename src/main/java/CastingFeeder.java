@@ -463,8 +463,8 @@ public final class CastingFeeder {
             int ownArea = cooledArea(section);
             int step = 0;
             for (int i = 0; i < sections; i++) {
-                int left = volume[i] * ownArea;
-                int right = ownVolume * (area[i] + chill[i]);
+                int left = at(volume, i) * ownArea;
+                int right = ownVolume * cooledArea(i);
                 if (left < right || left == right && i < section) {
                     step++;
                 }
